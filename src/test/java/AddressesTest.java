@@ -6,6 +6,7 @@ public final class AddressesTest {
         address();
         post();
         fits();
+        everyPlace();
         wrongLabels();
         likely();
         share();
@@ -70,6 +71,49 @@ public final class AddressesTest {
         due.is(21, "a hole between", x.fits(1, 406, 33), 1);
         due.is(21, "fits(2, 0, 10)", x.fits(2, 0, 10), Due.BEYOND);
         due.is(21, "fits(-1, 0, 10)", x.fits(-1, 0, 10), Due.BEYOND);
+    }
+
+    /** Labels of every length with a single letter, on words of every length. */
+    private static void everyPlace() {
+        LostParcels x = new LostParcels();
+        String word = "";
+        for (int length = 1; length <= 8; length++) {
+            word += (char) ('0' + 1 + length % 9);
+            due.is(19, "address(" + word + ", 1)", x.address(Integer.parseInt(word), 1), length - 1);
+            for (int places = 1; places <= 8; places++) {
+                for (int at = 0; at < places; at++) {
+                    oneLetter(x, length, places, at);
+                }
+            }
+        }
+        for (int places = 1; places <= 8; places++) {
+            due.is(22, "as long as its word", x.likely(0, 10 * places, 0), places - 1);
+            for (int torn = 1; torn < 4; torn++) {
+                due.is(22, "the first as long or longer", x.likely(0, 10 * places + torn, 0), places - 1);
+                due.is(22, "the last of them", x.likely(0, 10 * places + torn, 8 - places), 7);
+                due.is(22, "no more of them", x.likely(0, 10 * places + torn, 9 - places), Due.NONE);
+                due.is(23, "one of them", x.share(7, 0, 10 * places + torn), 1000 / (9 - places));
+            }
+        }
+    }
+
+    private static void oneLetter(LostParcels x, int length, int places, int at) {
+        int ten = 1;
+        for (int i = at + 1; i < places; i++) {
+            ten *= 10;
+        }
+        for (int letter = 1; letter <= 9; letter++) {
+            // Letter n stands at place n - 2 of the word alone.
+            int ahead = letter - 2 - at;
+            boolean lies = letter - 2 >= 0 && letter - 2 < length && ahead >= 0 && ahead + places <= length;
+            for (int torn = 0; torn < 4; torn++) {
+                boolean aheadIsFine = ahead == 0 || torn >= 2;
+                boolean behindIsFine = ahead + places == length || torn % 2 == 1;
+                int want = lies && aheadIsFine && behindIsFine ? 1 : 0;
+                String call = "fits(" + (length - 1) + ", " + ten * letter + ", " + (10 * places + torn) + ")";
+                due.is(21, call, x.fits(length - 1, ten * letter, 10 * places + torn), want);
+            }
+        }
     }
 
     private static void wrongLabels() {

@@ -68,6 +68,12 @@ public final class SortersTest {
         records(z, 1, 19, 11);
         due.is(31, "19 of 30, others 11", z.sorter(0, 2), 1);
         due.is(31, "the other", z.sorter(1, 2), 0);
+        LostParcels few = new LostParcels();
+        records(few, 0, 3, 2);
+        records(few, 1, 15, 0);
+        due.is(31, "2 of 5, of 20: 816 of 15504 ways", few.sorter(0, 2), 0);
+        records(few, 1, 1, 0);
+        due.is(31, "2 of 5, of 21: 969 of 20349 ways", few.sorter(0, 2), 1);
         LostParcels none = new LostParcels();
         records(none, 0, 30, 0);
         records(none, 1, 30, 0);
