@@ -25,7 +25,7 @@ public final class WildTest {
         long before = allocated();
         dearRun();
         long made = allocated() - before;
-        System.out.println("a run of 512 dear calls made " + made + " bytes");
+        System.out.println("a run of 505 dear calls made " + made + " bytes");
         if (made > 200000) {
             System.out.println("that is too much");
             System.exit(1);
@@ -84,11 +84,12 @@ public final class WildTest {
         }
     }
 
+    /** 105 calls to fill it and 50 times 8, as many as an object is meant for. */
     private static long dearRun() {
         LostParcels x = new LostParcels();
         fill(x);
         long sum = 0;
-        for (int i = 0; i < 60; i++) {
+        for (int i = 0; i < 50; i++) {
             x.day(i);
             sum += x.answer(0, 0, 1) + x.back(0) + x.match(-1) + x.lots(1023, 0, 10, 1) + x.burst(16383, 700, 5)
                     + x.likely(0, 83, 9) + x.share(0, 0, 83);
